@@ -1,18 +1,34 @@
 /** Counts and prints the answers that are not the ones that are due. */
 final class Checks {
+    static final int STATE_SIZE = 40;
+    static final int STATE_LAST = 41;
+
     private int wrong = 0;
+    private String sentence = "";
+
+    /** Runs the test of one sentence of the document; a call that throws breaks it too. */
+    void sentence(String text, Runnable test) {
+        sentence = "[" + text + "] ";
+        try {
+            test.run();
+        } catch (RuntimeException | Error thrown) {
+            wrong++;
+            System.out.println(sentence + "a call threw " + thrown);
+        }
+        sentence = "";
+    }
 
     void due(String what, int got, int want) {
         if (got != want) {
             wrong++;
-            System.out.println(what + " is " + got + ", due is " + want);
+            System.out.println(sentence + what + " is " + got + ", due is " + want);
         }
     }
 
     void holds(String what, boolean truth) {
         if (!truth) {
             wrong++;
-            System.out.println("does not hold: " + what);
+            System.out.println(sentence + "does not hold: " + what);
         }
     }
 

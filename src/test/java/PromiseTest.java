@@ -39,33 +39,18 @@ public final class PromiseTest {
         CHECKS.due(what, got, want);
     }
 
-    /** Registers and words that are all different and none 0, one bar, a run behind it. */
     private static SpecLoadSched used() {
-        SpecLoadSched x = new SpecLoadSched();
-        for (int r = 0; r < 8; r++) {
-            x.setRegister(r, 100 + r);
-        }
-        for (int a = 0; a < 16; a++) {
-            x.setWord(a, 200 + a);
-        }
-        x.bar(5, 1);
-        x.leave(0);
-        x.run();
-        return x;
+        return Fixtures.used();
     }
 
     private static SpecLoadSched full() {
-        SpecLoadSched x = used();
-        for (int i = 1; i < 14; i++) {
-            x.constant(0, 1);
-        }
-        return x;
+        return Fixtures.full();
     }
 
     private static void newObject() {
         SpecLoadSched x = new SpecLoadSched();
         int[] want = new int[42];
-        want[41] = -1;
+        want[Checks.STATE_LAST] = -1;
         CHECKS.sameState("1: new object", x, want);
         due("1: run of a new object", x.run(), 0);
         SpecLoadSched other = used();
@@ -370,7 +355,7 @@ public final class PromiseTest {
         SpecLoadSched x = full();
         int[] want = Checks.stateOf(x);
         x.clear();
-        want[40] = 0;
+        want[Checks.STATE_SIZE] = 0;
         CHECKS.sameState("9: only the instructions go", x, want);
         due("9: run", x.run(), 0);
         due("9: registers after the run", x.register(0), 100);
