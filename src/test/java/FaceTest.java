@@ -11,7 +11,9 @@ public final class FaceTest {
 
     public static void main(String[] args) {
         constantsHaveTheirValues();
+        constantsAreKnownWhenCompiled();
         membersAreTheDocuments();
+        nothingIsInherited();
         CHECKS.finish("FaceTest");
     }
 
@@ -21,6 +23,21 @@ public final class FaceTest {
         CHECKS.due("FELL_THROUGH", SpecLoadSched.FELL_THROUGH, 0);
         CHECKS.due("LEFT", SpecLoadSched.LEFT, 1);
         CHECKS.due("FAULTED", SpecLoadSched.FAULTED, 2);
+    }
+
+    /** The document gives them values, so a user may write them as labels of a switch. */
+    private static void constantsAreKnownWhenCompiled() {
+        for (int code = -2; code <= 2; code++) {
+            int label = switch (code) {
+                case SpecLoadSched.FULL -> -2;
+                case SpecLoadSched.BAD_ARG -> -1;
+                case SpecLoadSched.FELL_THROUGH -> 0;
+                case SpecLoadSched.LEFT -> 1;
+                case SpecLoadSched.FAULTED -> 2;
+                default -> 99;
+            };
+            CHECKS.due("label of " + code, label, code);
+        }
     }
 
     private static void membersAreTheDocuments() {
@@ -64,5 +81,14 @@ public final class FaceTest {
         CHECKS.holds("the face is " + want + ", it shows " + got, want.equals(got));
         CHECKS.due("modifiers of the class", SpecLoadSched.class.getModifiers(),
             Modifier.PUBLIC | Modifier.FINAL);
+    }
+
+    private static void nothingIsInherited() {
+        CHECKS.holds("it extends Object", SpecLoadSched.class.getSuperclass() == Object.class);
+        CHECKS.due("interfaces", SpecLoadSched.class.getInterfaces().length, 0);
+        CHECKS.due("type parameters", SpecLoadSched.class.getTypeParameters().length, 0);
+        CHECKS.due("member classes", SpecLoadSched.class.getDeclaredClasses().length, 0);
+        CHECKS.due("annotations", SpecLoadSched.class.getAnnotations().length, 0);
+        CHECKS.holds("it has no package", SpecLoadSched.class.getPackageName().isEmpty());
     }
 }
